@@ -8,6 +8,7 @@ public final class RulesTest {
         feedAndEnd();
         rules();
         goodTexts();
+        longTexts();
         placesOfFaults();
         tooMany();
         bytesThatAreNone();
@@ -101,6 +102,25 @@ public final class RulesTest {
         }
     }
 
+    /** 600 bytes each, with as many steps as they can hold, so that nothing is left over of the last. */
+    private static void longTexts() {
+        TeaBook x = new TeaBook();
+        x.thing(0, 7, 0, 1, 0);
+        for (int i = 0; i < 8; i++) {
+            String rank = i % 2 == 0 ? "7" : "8";
+            String text = "bar 1=2or " + times(115, "1=2or") + " rank bowl=" + rank + ";";
+            text += times(600 - text.length(), "\n");
+            Check.due("a long text", 1, Check.rules(x, text));
+            Check.due("a long text bars", i % 2 == 0 ? 0 : NONE, x.barred(0, 1, 1));
+        }
+        Check.due("semicolons alone", NONE, Check.rules(x, times(600, ";")));
+        Check.due("their place", 0, x.fault(1));
+        Check.due("blanks to the end", NONE, Check.rules(x, "bar" + times(597, " ")));
+        Check.due("their place", 600, x.fault(1));
+        Check.due("12 rules of 50 bytes", 12, Check.rules(x, times(12, "bar rank bowl<7 or not has bowl=1 or age bowl>99 ;")));
+        Check.due("none bars", NONE, x.barred(0, 1, 1));
+    }
+
     private static void fails(String text, int fault, int place) {
         TeaBook x = new TeaBook();
         Check.due("rules of '" + text + "'", NONE, Check.rules(x, text));
@@ -180,7 +200,9 @@ public final class RulesTest {
     private static void bytesThatAreNone() {
         fails("Bar 1=1;", 1, 0);
         fails("BAR 1=1;", 1, 0);
-        fails("barX 1=1;", 1, 0);
+        for (char c : new char[] {'a', 'z', 'A', 'Z'}) {
+            fails("bar" + c + " 1=1;", 1, 0);
+        }
         fails("barnot 1=1;", 1, 0);
         fails("bars 1=1;", 1, 0);
         fails("ba r 1=1;", 1, 0);
