@@ -67,11 +67,8 @@ public final class TeaBook {
     }
 
     public boolean pass(int t, int house) {
-        Thing thing = shelf.findThere(t);
-        if (thing == null || !isHouse(house) || thing.isLent() || thing.owner() == house) {
-            return false;
-        }
-        if (!spendAct()) {
+        Thing thing = findFreeFor(house, t);
+        if (thing == null || !spendAct()) {
             return false;
         }
         thing.goTo(day, house);
@@ -79,11 +76,8 @@ public final class TeaBook {
     }
 
     public boolean lend(int t, int house) {
-        Thing thing = shelf.findThere(t);
-        if (thing == null || !isHouse(house) || thing.isLent() || thing.owner() == house) {
-            return false;
-        }
-        if (!spendAct()) {
+        Thing thing = findFreeFor(house, t);
+        if (thing == null || !spendAct()) {
             return false;
         }
         thing.stayWith(day, house);
@@ -272,6 +266,15 @@ public final class TeaBook {
         chooser.invite(house, season, guests);
         chooser.choose(kinds, inForce, day);
         return chooser.tell(what);
+    }
+
+    /** The thing if its owner has it at hand and may give it to that other house, else null. */
+    private Thing findFreeFor(int house, int t) {
+        Thing thing = shelf.findThere(t);
+        if (thing == null || thing.isLent() || !isHouse(house) || thing.owner() == house) {
+            return null;
+        }
+        return thing;
     }
 
     private boolean spendAct() {
