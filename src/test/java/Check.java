@@ -2,15 +2,21 @@
 final class Check {
     private static int asked = 0;
     private static int wrong = 0;
+    private static String sentence = "";
 
     private Check() {
+    }
+
+    /** Names the sentence of the document that the next answers are looked at for. */
+    static void sentence(String words) {
+        sentence = "[" + words + "] ";
     }
 
     static void due(String call, long want, long got) {
         asked++;
         if (got != want) {
             wrong++;
-            System.out.println(call + " answered " + got + ", due is " + want);
+            System.out.println(sentence + call + " answered " + got + ", due is " + want);
         }
     }
 
@@ -23,11 +29,13 @@ final class Check {
     }
 
     /** Puts a text behind what the tape has; 20 bytes a call, the last call's filling cut off. */
-    static void write(TeaBook x, String text) {
+    static void write(Book x, String text) {
         for (int from = 0; from < text.length(); from += 20) {
             int[] n = numbers(text, from);
             int length = x.feed(n[0], n[1], n[2], n[3], n[4]);
-            x.end(length - Math.max(0, from + 20 - text.length()));
+            if (from + 20 > text.length()) {
+                x.end(length - (from + 20 - text.length()));
+            }
         }
     }
 
@@ -40,9 +48,24 @@ final class Check {
         return n;
     }
 
-    static int rules(TeaBook x, String text) {
+    static int rules(Book x, String text) {
         write(x, text);
         return x.rules();
+    }
+
+    static void passes(String text, int rules) {
+        Book x = new Book();
+        due("rules of '" + text + "'", rules, rules(x, text));
+        due("look(4) with '" + text + "'", rules, x.look(4));
+        due("fault(0) of '" + text + "'", 0, x.fault(0));
+        due("fault(1) of '" + text + "'", TeaBook.NONE, x.fault(1));
+    }
+
+    static void fails(String text, int fault, int place) {
+        Book x = new Book();
+        due("rules of '" + text + "'", TeaBook.NONE, rules(x, text));
+        due("fault(0) of '" + text + "'", fault, x.fault(0));
+        due("fault(1) of '" + text + "'", place, x.fault(1));
     }
 
     static void finish() {

@@ -14,8 +14,8 @@ public final class GatheringsTest {
     }
 
     /** Things 0 to 4 of the five kinds and 5, a second bowl, in house 1; 6, a scroll, in house 2. */
-    private static TeaBook book() {
-        TeaBook x = new TeaBook();
+    private static Book book() {
+        Book x = new Book();
         for (int kind = 0; kind < 5; kind++) {
             x.thing(kind, kind, kind, 1, 1);
         }
@@ -25,7 +25,7 @@ public final class GatheringsTest {
     }
 
     private static void gather() {
-        TeaBook x = book();
+        Book x = book();
         int[][] wrong = {
             {-1, 0, 1, 1}, {8, 0, 1, 1}, {1, -1, 1, 1}, {1, 4, 1, 1}, {1, 0, 0, 1}, {1, 0, -1, 1},
             {1, 0, 256, 1}, {1, 0, 1, 0}, {1, 0, 1, -1}, {1, 0, 1, MIN}, {1, 0, 1, MIN | 1},
@@ -51,7 +51,7 @@ public final class GatheringsTest {
     }
 
     private static void mostGatherings() {
-        TeaBook x = book();
+        Book x = book();
         for (int i = 0; i < 60; i++) {
             Check.due("gathering " + i, i, x.gather(1, 0, 1, 1));
         }
@@ -65,7 +65,7 @@ public final class GatheringsTest {
     }
 
     private static void gathering() {
-        TeaBook x = book();
+        Book x = book();
         x.days(3);
         x.gather(1, 2, 0x81, 6);
         x.days(3);
@@ -85,7 +85,7 @@ public final class GatheringsTest {
     }
 
     private static void seen() {
-        TeaBook x = book();
+        Book x = book();
         x.gather(1, 0, 3, 7);
         x.gather(1, 0, 2, 3);
         x.gather(1, 0, 128, 34);
@@ -109,7 +109,7 @@ public final class GatheringsTest {
     }
 
     private static void again() {
-        TeaBook x = book();
+        Book x = book();
         Check.due("nothing yet", 0, x.again(255, 31));
         x.gather(1, 0, 3, 7);
         x.gather(1, 0, 6, 3);

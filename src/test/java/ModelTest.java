@@ -4,17 +4,18 @@ import java.util.Random;
 /** Long runs of mixed calls, the answers compared with those of the slow book. The seeds are fixed. */
 public final class ModelTest {
     private static final int RUNS = 600;
-    private static final int CALLS = 512;
+    /** The most calls of one step, and of one text of rules. */
+    private static final int LONGEST_STEP = 5;
+    private static final int LONGEST_WRITING = 64;
     private static final int[] EXTREMES = {Integer.MIN_VALUE, -2, -1, 0, 1, 20, 31, 32, 255, 256, 1 << 20,
         1 << 30, Integer.MAX_VALUE};
 
     private final Random random;
-    private final TeaBook book = new TeaBook();
+    private final Book book = new Book();
     private final SlowBook slow = new SlowBook();
     private final int oddity;
     private final int houses;
     private final int kindsUsed;
-    private int calls = 0;
 
     private ModelTest(long seed) {
         random = new Random(seed);
@@ -36,11 +37,15 @@ public final class ModelTest {
         for (int i = 0; i < wanted; i++) {
             come();
         }
-        while (calls < CALLS && Check.isClean()) {
+        while (book.callsLeft() >= LONGEST_STEP && Check.isClean()) {
             step();
         }
+        while (book.callsLeft() > 0 && Check.isClean()) {
+            int what = pick(0, 4);
+            compare("look " + what, slow.look(what), book.look(what));
+        }
         if (!Check.isClean()) {
-            System.out.println("in run " + run + " at call " + calls);
+            System.out.println("in run " + run + " with " + book.callsLeft() + " calls left");
         }
     }
 
@@ -79,7 +84,6 @@ public final class ModelTest {
     }
 
     private void compare(String call, int want, int got) {
-        calls++;
         Check.due(call, want, got);
     }
 
@@ -199,6 +203,9 @@ public final class ModelTest {
     }
 
     private void writeRules() {
+        if (book.callsLeft() < LONGEST_WRITING) {
+            return;
+        }
         String text = text();
         for (int from = 0; from < text.length(); from += 20) {
             int[] n = Check.numbers(text, from);

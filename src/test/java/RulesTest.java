@@ -30,7 +30,7 @@ public final class RulesTest {
     }
 
     private static void feedAndEnd() {
-        TeaBook x = new TeaBook();
+        Book x = new Book();
         Check.due("end 0 of nothing", true, x.end(0));
         Check.due("end 1 of nothing", false, x.end(1));
         for (int i = 1; i <= 30; i++) {
@@ -60,7 +60,7 @@ public final class RulesTest {
     }
 
     private static void rules() {
-        TeaBook x = new TeaBook();
+        Book x = new Book();
         Check.due("two rules", 2, Check.rules(x, "bar 1=1; bar 2=3;"));
         Check.due("look", 2, x.look(4));
         Check.due("no fault", 0, x.fault(0));
@@ -87,7 +87,7 @@ public final class RulesTest {
     }
 
     private static void goodTexts() {
-        TeaBook x = new TeaBook();
+        Book x = new Book();
         String[] texts = {
             "", " ", "\n \n", "bar 1=1;", "bar1=1;", "bar\n1\n=\n1\n;\n", "  bar 9999 > 0000 ;",
             "bar season=guests;", "bar rank bowl<tone scroll and age kettle>has vase or 1=has scoop;",
@@ -104,7 +104,7 @@ public final class RulesTest {
 
     /** 600 bytes each, with as many steps as they can hold, so that nothing is left over of the last. */
     private static void longTexts() {
-        TeaBook x = new TeaBook();
+        Book x = new Book();
         x.thing(0, 7, 0, 1, 0);
         for (int i = 0; i < 8; i++) {
             String rank = i % 2 == 0 ? "7" : "8";
@@ -121,75 +121,68 @@ public final class RulesTest {
         Check.due("none bars", NONE, x.barred(0, 1, 1));
     }
 
-    private static void fails(String text, int fault, int place) {
-        TeaBook x = new TeaBook();
-        Check.due("rules of '" + text + "'", NONE, Check.rules(x, text));
-        Check.due("fault of '" + text + "'", fault, x.fault(0));
-        Check.due("place in '" + text + "'", place, x.fault(1));
-    }
-
     private static void placesOfFaults() {
-        fails("bar", 1, 3);
-        fails("bar   ", 1, 6);
-        fails("bar\n", 1, 4);
-        fails("bar 1", 1, 5);
-        fails("bar 1=", 1, 6);
-        fails("bar 1=1", 1, 7);
-        fails("bar 1=1 ", 1, 8);
-        fails("bar ;", 1, 4);
-        fails(";", 1, 0);
-        fails("  ;", 1, 2);
-        fails("1", 1, 0);
-        fails("bar 1=1;;", 1, 8);
-        fails("bar 1=1; 1=1;", 1, 9);
-        fails("bar 1=1 bar 2=2;", 1, 8);
-        fails("bar bar 1=1;", 1, 4);
-        fails("bar 1 1;", 1, 6);
-        fails("bar 1==1;", 1, 6);
-        fails("bar 1<>1;", 1, 6);
-        fails("bar 1=1=1;", 1, 7);
-        fails("bar 1;", 1, 5);
-        fails("bar 1 and 1;", 1, 6);
-        fails("bar (1);", 1, 6);
-        fails("bar 1=(1);", 1, 6);
-        fails("bar (1=1;", 1, 8);
-        fails("bar (1=1", 1, 8);
-        fails("bar 1=1);", 1, 7);
-        fails("bar ();", 1, 5);
-        fails("bar (1=1)=1;", 1, 9);
-        fails("bar not;", 1, 7);
-        fails("bar not", 1, 7);
-        fails("bar 1=not 1;", 1, 6);
-        fails("bar 1=1 not 1=1;", 1, 8);
-        fails("bar 1=1 or;", 1, 10);
-        fails("bar 1=1 and or 1=1;", 1, 12);
-        fails("bar or 1=1;", 1, 4);
-        fails("bar rank=1;", 1, 8);
-        fails("bar rank 1=1;", 1, 9);
-        fails("bar rank rank bowl=1;", 1, 9);
-        fails("bar has season=1;", 1, 8);
-        fails("bar bowl=1;", 1, 4);
-        fails("bar season bowl=1;", 1, 11);
-        fails("bar 1=has", 1, 9);
-        fails("bar 1=1 and", 1, 11);
-        fails("bar 1=1; ba", 1, 9);
+        Check.fails("bar", 1, 3);
+        Check.fails("bar   ", 1, 6);
+        Check.fails("bar\n", 1, 4);
+        Check.fails("bar 1", 1, 5);
+        Check.fails("bar 1=", 1, 6);
+        Check.fails("bar 1=1", 1, 7);
+        Check.fails("bar 1=1 ", 1, 8);
+        Check.fails("bar ;", 1, 4);
+        Check.fails(";", 1, 0);
+        Check.fails("  ;", 1, 2);
+        Check.fails("1", 1, 0);
+        Check.fails("bar 1=1;;", 1, 8);
+        Check.fails("bar 1=1; 1=1;", 1, 9);
+        Check.fails("bar 1=1 bar 2=2;", 1, 8);
+        Check.fails("bar bar 1=1;", 1, 4);
+        Check.fails("bar 1 1;", 1, 6);
+        Check.fails("bar 1==1;", 1, 6);
+        Check.fails("bar 1<>1;", 1, 6);
+        Check.fails("bar 1=1=1;", 1, 7);
+        Check.fails("bar 1;", 1, 5);
+        Check.fails("bar 1 and 1;", 1, 6);
+        Check.fails("bar (1);", 1, 6);
+        Check.fails("bar 1=(1);", 1, 6);
+        Check.fails("bar (1=1;", 1, 8);
+        Check.fails("bar (1=1", 1, 8);
+        Check.fails("bar 1=1);", 1, 7);
+        Check.fails("bar ();", 1, 5);
+        Check.fails("bar (1=1)=1;", 1, 9);
+        Check.fails("bar not;", 1, 7);
+        Check.fails("bar not", 1, 7);
+        Check.fails("bar 1=not 1;", 1, 6);
+        Check.fails("bar 1=1 not 1=1;", 1, 8);
+        Check.fails("bar 1=1 or;", 1, 10);
+        Check.fails("bar 1=1 and or 1=1;", 1, 12);
+        Check.fails("bar or 1=1;", 1, 4);
+        Check.fails("bar rank=1;", 1, 8);
+        Check.fails("bar rank 1=1;", 1, 9);
+        Check.fails("bar rank rank bowl=1;", 1, 9);
+        Check.fails("bar has season=1;", 1, 8);
+        Check.fails("bar bowl=1;", 1, 4);
+        Check.fails("bar season bowl=1;", 1, 11);
+        Check.fails("bar 1=has", 1, 9);
+        Check.fails("bar 1=1 and", 1, 11);
+        Check.fails("bar 1=1; ba", 1, 9);
     }
 
     private static void tooMany() {
-        fails(times(13, "bar 1=1;"), 2, 96);
-        fails(times(12, "bar 1=1;") + "\nbar", 2, 97);
-        fails(times(12, "bar 1=1;") + "x", 1, 96);
-        fails(times(11, "bar 1=1;") + "bar ;bar 1=1;bar 1=1;", 1, 92);
-        fails("bar " + times(9, "not ") + "1=1;", 2, 36);
-        fails("bar " + times(9, "(") + "1=1;", 2, 12);
-        fails("bar " + times(9, "not "), 2, 36);
-        fails("bar " + times(8, "not ") + "(1=1);", 2, 36);
-        fails("bar " + times(8, "(") + "not 1=1" + times(8, ")") + ";", 2, 12);
-        fails("bar " + times(4, "not(") + "1=1 or not 1=1" + times(3, ")") + "and(1=1);", 2, 27);
-        fails("bar " + times(8, "not ") + ";", 1, 36);
-        fails("bar " + times(8, "(") + "1=(", 1, 14);
-        fails("bar " + times(8, "(") + "1=1(", 1, 15);
-        TeaBook x = new TeaBook();
+        Check.fails(times(13, "bar 1=1;"), 2, 96);
+        Check.fails(times(12, "bar 1=1;") + "\nbar", 2, 97);
+        Check.fails(times(12, "bar 1=1;") + "x", 1, 96);
+        Check.fails(times(11, "bar 1=1;") + "bar ;bar 1=1;bar 1=1;", 1, 92);
+        Check.fails("bar " + times(9, "not ") + "1=1;", 2, 36);
+        Check.fails("bar " + times(9, "(") + "1=1;", 2, 12);
+        Check.fails("bar " + times(9, "not "), 2, 36);
+        Check.fails("bar " + times(8, "not ") + "(1=1);", 2, 36);
+        Check.fails("bar " + times(8, "(") + "not 1=1" + times(8, ")") + ";", 2, 12);
+        Check.fails("bar " + times(4, "not(") + "1=1 or not 1=1" + times(3, ")") + "and(1=1);", 2, 27);
+        Check.fails("bar " + times(8, "not ") + ";", 1, 36);
+        Check.fails("bar " + times(8, "(") + "1=(", 1, 14);
+        Check.fails("bar " + times(8, "(") + "1=1(", 1, 15);
+        Book x = new Book();
         Check.due("closed ones don't count", 1,
                 Check.rules(x, "bar " + times(20, "not (1=1) and ") + "(1=1) and not not 1=1;"));
         Check.due("closed and opened again", 1, Check.rules(x,
@@ -198,39 +191,39 @@ public final class RulesTest {
     }
 
     private static void bytesThatAreNone() {
-        fails("Bar 1=1;", 1, 0);
-        fails("BAR 1=1;", 1, 0);
+        Check.fails("Bar 1=1;", 1, 0);
+        Check.fails("BAR 1=1;", 1, 0);
         for (char c : new char[] {'a', 'z', 'A', 'Z'}) {
-            fails("bar" + c + " 1=1;", 1, 0);
+            Check.fails("bar" + c + " 1=1;", 1, 0);
         }
-        fails("barnot 1=1;", 1, 0);
-        fails("bars 1=1;", 1, 0);
-        fails("ba r 1=1;", 1, 0);
-        fails("bar seasons=1;", 1, 4);
-        fails("bar seasonguests=1;", 1, 4);
-        fails("bar 1=1 orand 1=1;", 1, 8);
-        fails("bar 12345=1;", 1, 4);
-        fails("bar 00001=1;", 1, 4);
-        fails("bar 1=1 12345;", 1, 8);
-        fails("bar 1=99999999999999999999;", 1, 6);
-        fails("bar -1=1;", 1, 4);
-        fails("bar 1=1,", 1, 7);
-        fails("bar\t1=1;", 1, 3);
-        fails("bar 1=1;\r\n", 1, 8);
-        fails("bar 1=1;\0", 1, 8);
-        fails("bar 1=1; \u00ff", 1, 9);
-        fails("\u0080bar 1=1;", 1, 0);
-        fails("bar 1\u00a0=1;", 1, 5);
-        fails("bar [1=1];", 1, 4);
-        fails("bar 1@1;", 1, 5);
-        fails("bar 1`1;", 1, 5);
-        fails("bar 1{1;", 1, 5);
-        fails("bar 1/1;", 1, 5);
-        fails("bar 1:1;", 1, 5);
+        Check.fails("barnot 1=1;", 1, 0);
+        Check.fails("bars 1=1;", 1, 0);
+        Check.fails("ba r 1=1;", 1, 0);
+        Check.fails("bar seasons=1;", 1, 4);
+        Check.fails("bar seasonguests=1;", 1, 4);
+        Check.fails("bar 1=1 orand 1=1;", 1, 8);
+        Check.fails("bar 12345=1;", 1, 4);
+        Check.fails("bar 00001=1;", 1, 4);
+        Check.fails("bar 1=1 12345;", 1, 8);
+        Check.fails("bar 1=99999999999999999999;", 1, 6);
+        Check.fails("bar -1=1;", 1, 4);
+        Check.fails("bar 1=1,", 1, 7);
+        Check.fails("bar\t1=1;", 1, 3);
+        Check.fails("bar 1=1;\r\n", 1, 8);
+        Check.fails("bar 1=1;\0", 1, 8);
+        Check.fails("bar 1=1; \u00ff", 1, 9);
+        Check.fails("\u0080bar 1=1;", 1, 0);
+        Check.fails("bar 1\u00a0=1;", 1, 5);
+        Check.fails("bar [1=1];", 1, 4);
+        Check.fails("bar 1@1;", 1, 5);
+        Check.fails("bar 1`1;", 1, 5);
+        Check.fails("bar 1{1;", 1, 5);
+        Check.fails("bar 1/1;", 1, 5);
+        Check.fails("bar 1:1;", 1, 5);
     }
 
-    private static TeaBook twoThings() {
-        TeaBook x = new TeaBook();
+    private static Book twoThings() {
+        Book x = new Book();
         x.thing(0, 4, 6, 1, 0);
         x.days(10);
         x.thing(1, 5, 7, 2, 1);
@@ -240,7 +233,7 @@ public final class RulesTest {
     }
 
     private static void barred() {
-        TeaBook x = twoThings();
+        Book x = twoThings();
         Check.due("no rules", NONE, x.barred(0, 1, 1));
         Check.rules(x, "bar season=1; bar guests>2; bar has bowl=1 and has scroll=1; bar 1=1;");
         Check.due("the first", 0, x.barred(1, 7, 3));
@@ -260,7 +253,7 @@ public final class RulesTest {
     }
 
     private static void says(String expression, boolean want) {
-        TeaBook x = twoThings();
+        Book x = twoThings();
         Check.due("rules of " + expression, 1, Check.rules(x, "bar " + expression + ";"));
         Check.due(expression, want ? 0 : NONE, x.barred(2, 0xA1, 3));
     }
@@ -304,7 +297,7 @@ public final class RulesTest {
             String all = "rank K=0 and tone K=0 and age K=0 and has K=0".replace("K", kind);
             says(all, true);
         }
-        TeaBook x = new TeaBook();
+        Book x = new Book();
         for (int kind = 0; kind < 5; kind++) {
             x.thing(kind, kind + 1, 9 - kind, 15, 0);
             x.days(1);
@@ -322,14 +315,14 @@ public final class RulesTest {
         Check.due("bowl alone", 0, x.barred(0, 1, 1));
     }
 
-    private static void bestIs(TeaBook x, String call, int[] in, int[] want) {
+    private static void bestIs(Book x, String call, int[] in, int[] want) {
         for (int what = 0; what < 4; what++) {
             Check.due(call + " " + what, want[what], x.best(in[0], in[1], in[2], in[3], what));
         }
     }
 
     private static void best() {
-        TeaBook x = new TeaBook();
+        Book x = new Book();
         int[] nothing = {NONE, NONE, NONE, NONE};
         x.thing(0, 5, 1, 3, 1);
         x.thing(0, 7, 1, 1, 1);
@@ -368,7 +361,7 @@ public final class RulesTest {
     }
 
     private static void bestOrder() {
-        TeaBook x = new TeaBook();
+        Book x = new Book();
         x.thing(4, 3, 0, 1, 0);
         x.thing(4, 3, 0, 1, 0);
         x.thing(0, 3, 0, 1, 0);
@@ -380,7 +373,7 @@ public final class RulesTest {
     }
 
     private static void bestOfMany() {
-        TeaBook x = new TeaBook();
+        Book x = new Book();
         for (int t = 0; t < 20; t++) {
             x.thing(t % 5, t / 5, 0, 15, 0);
         }

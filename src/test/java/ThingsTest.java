@@ -22,7 +22,7 @@ public final class ThingsTest {
     }
 
     private static void newObject() {
-        TeaBook x = new TeaBook();
+        Book x = new Book();
         for (int what = 0; what <= 4; what++) {
             Check.due("new look(" + what + ")", 0, x.look(what));
         }
@@ -39,7 +39,7 @@ public final class ThingsTest {
     }
 
     private static void thing() {
-        TeaBook x = new TeaBook();
+        Book x = new Book();
         int[][] wrong = {
             {-1, 0, 0, 1, 0}, {5, 0, 0, 1, 0}, {0, -1, 0, 1, 0}, {0, 10, 0, 1, 0}, {0, 0, -1, 1, 0},
             {0, 0, 10, 1, 0}, {0, 0, 0, 0, 0}, {0, 0, 0, 16, 0}, {0, 0, 0, -1, 0}, {0, 0, 0, 1, -1},
@@ -62,7 +62,7 @@ public final class ThingsTest {
     }
 
     private static void copy() {
-        TeaBook x = new TeaBook();
+        Book x = new Book();
         Check.due("copy of none", NONE, x.copy(0, 1, 1));
         x.thing(3, 5, 7, 9, 2);
         x.days(4);
@@ -89,7 +89,7 @@ public final class ThingsTest {
     }
 
     private static void pass() {
-        TeaBook x = new TeaBook();
+        Book x = new Book();
         Check.due("pass none", false, x.pass(0, 1));
         x.thing(0, 1, 1, 1, 0);
         Check.due("pass to its owner", false, x.pass(0, 0));
@@ -111,7 +111,7 @@ public final class ThingsTest {
     }
 
     private static void lendAndBack() {
-        TeaBook x = new TeaBook();
+        Book x = new Book();
         Check.due("lend none", false, x.lend(0, 1));
         Check.due("back none", false, x.back(0));
         x.thing(0, 1, 1, 1, 4);
@@ -137,7 +137,7 @@ public final class ThingsTest {
     }
 
     private static void burn() {
-        TeaBook x = new TeaBook();
+        Book x = new Book();
         Check.due("burn none", false, x.burn(0));
         x.thing(1, 1, 1, 1, 1);
         Check.due("burn -1", false, x.burn(-1));
@@ -151,7 +151,7 @@ public final class ThingsTest {
     }
 
     private static void days() {
-        TeaBook x = new TeaBook();
+        Book x = new Book();
         Check.due("days 0", NONE, x.days(0));
         Check.due("days -1", NONE, x.days(-1));
         Check.due("days 1001", NONE, x.days(1001));
@@ -168,7 +168,7 @@ public final class ThingsTest {
     }
 
     private static void look() {
-        TeaBook x = new TeaBook();
+        Book x = new Book();
         x.thing(0, 1, 1, 1, 0);
         x.thing(1, 1, 1, 1, 0);
         x.days(7);
@@ -185,7 +185,7 @@ public final class ThingsTest {
     }
 
     private static void of() {
-        TeaBook x = new TeaBook();
+        Book x = new Book();
         x.days(12);
         x.thing(2, 8, 6, 10, 3);
         int[] want = {2, 8, 6, 10, 12, NONE, 0, 1, 0};
@@ -201,7 +201,7 @@ public final class ThingsTest {
     }
 
     private static void inDoubt() {
-        TeaBook x = new TeaBook();
+        Book x = new Book();
         x.thing(0, 1, 1, 1, 2);
         x.copy(0, 1, 2);
         x.copy(1, 1, 2);
@@ -231,7 +231,7 @@ public final class ThingsTest {
     }
 
     private static void held() {
-        TeaBook x = new TeaBook();
+        Book x = new Book();
         x.days(10);
         x.thing(0, 1, 1, 1, 1);
         x.pass(0, 2);
@@ -265,7 +265,7 @@ public final class ThingsTest {
     }
 
     private static void owners() {
-        TeaBook x = new TeaBook();
+        Book x = new Book();
         Check.due("owners of none", NONE, x.owners(0, -1));
         x.thing(0, 1, 1, 1, 1);
         x.pass(0, 2);
@@ -287,7 +287,7 @@ public final class ThingsTest {
     }
 
     private static void mostActs() {
-        TeaBook x = new TeaBook();
+        Book x = new Book();
         x.thing(0, 1, 1, 1, 0);
         x.thing(0, 1, 1, 1, 0);
         for (int i = 1; i <= 98; i++) {
