@@ -17,6 +17,8 @@ public final class RuleEdgesTest {
         barredByFirst();
         best();
         bestOfNone();
+        bestOfTheSeason();
+        bestFromDayToDay();
         bestOfMost();
         bestAmongEquals();
         Check.finish();
@@ -234,6 +236,45 @@ public final class RuleEdgesTest {
         bestIs(Scenes.busy(), new Call("best", 1, 0, 255, 9, 0), 129, 0, 13, 1);
         bestIs(Scenes.busy(), new Call("best", 1, 2, 255, 16, 0), 256, 0, 1, 1);
         bestIs(Scenes.busy(), new Call("best", 1, 2, 255, 7, 0), 74, 2, 12, 2);
+    }
+
+    private static void bestOfTheSeason() {
+        Check.sentence("Terms: FIT: each of its THINGS of that SEASON");
+        for (int seasons = 1; seasons <= 15; seasons++) {
+            Book x = new Book();
+            x.thing(0, 9, 9, seasons, 0);
+            x.thing(1, 9, 9, 15, 0);
+            for (int season = 0; season < 4; season++) {
+                boolean fits = (seasons & 1 << season) != 0;
+                Check.due("alone", fits ? 1 : NONE, x.best(0, season, 1, 1, 0));
+                Check.due("with another", fits ? 3 : NONE, x.best(0, season, 1, 3, 0));
+                Check.due("the other alone", 2, x.best(0, season, 1, 2, 0));
+            }
+        }
+    }
+
+    private static void bestFromDayToDay() {
+        Check.sentence("Terms: FIT: there, KEPT by the HOUSE, and not BARRED, as it is now");
+        Book x = new Book();
+        x.thing(0, 9, 9, 15, 0);
+        Check.rules(x, "bar age bowl>1; bar guests>7;");
+        Call call = new Call("best", 0, 0, 127, 1, 0);
+        bestIs(x, call, 1, 0, 9, 1);
+        bestIs(x, call.with(2, 255), NONE, NONE, NONE, NONE);
+        x.days(1);
+        bestIs(x, call, 1, 0, 9, 1);
+        x.days(1);
+        bestIs(x, call, NONE, NONE, NONE, NONE);
+        x.copy(0, 1, 0);
+        bestIs(x, call, 2, 0, 1, 1);
+        x.lend(1, 7);
+        bestIs(x, call, NONE, NONE, NONE, NONE);
+        bestIs(x, call.with(0, 7), 2, 0, 1, 1);
+        x.back(1);
+        bestIs(x, call, 2, 0, 1, 1);
+        bestIs(x, call.with(0, 7), NONE, NONE, NONE, NONE);
+        x.burn(1);
+        bestIs(x, call, NONE, NONE, NONE, NONE);
     }
 
     private static void bestOfMost() {

@@ -8,6 +8,7 @@ public final class TextEdgesTest {
         everyByteBehindAWord();
         everyByteBehindANumber();
         words();
+        everyTokenEverywhere();
         endOfEveryBeginning();
         longestText();
         thirteenthRule();
@@ -16,6 +17,7 @@ public final class TextEdgesTest {
         firstByPlace();
         leastAtOnePlace();
         values();
+        deepest();
         ages();
         thingsThatAreNotInTheSet();
         Check.finish();
@@ -117,6 +119,40 @@ public final class TextEdgesTest {
         }
     }
 
+    /** Behind each beginning all that can stand is told; every other token is a fault just there. */
+    private static void everyTokenEverywhere() {
+        Check.sentence("Terms: FAULT 1 what can't stand there");
+        String clause = " not ( 7 season guests rank tone age has ";
+        String term = " 7 season guests rank tone age has ";
+        String kind = " bowl scroll kettle vase scoop ";
+        String[][] can = {
+            {"", " bar "}, {"bar 1=1; ", " bar "}, {"bar ", clause}, {"bar not ", clause}, {"bar (", clause},
+            {"bar 1=1 or ", clause}, {"bar 1=1 and ", clause}, {"bar 1 ", " < = > "}, {"bar season ", " < = > "},
+            {"bar guests ", " < = > "}, {"bar rank bowl ", " < = > "}, {"bar has scoop ", " < = > "},
+            {"bar rank ", kind}, {"bar tone ", kind}, {"bar age ", kind}, {"bar has ", kind}, {"bar 1=rank ", kind},
+            {"bar 1=has ", kind}, {"bar 1<", term}, {"bar 1=", term}, {"bar season>", term}, {"bar 1=1 ", " ; or and "},
+            {"bar 1=season ", " ; or and "}, {"bar 1=age vase ", " ; or and "}, {"bar not 1=1 ", " ; or and "},
+            {"bar (1=1) ", " ; or and "}, {"bar not (1=1) ", " ; or and "}, {"bar (1=1 ", " ) or and "},
+            {"bar (not 1=1 ", " ) or and "}, {"bar ((1=1) ", " ) or and "}, {"bar not ((1=1) ", " ) or and "}};
+        String all = "bar or and not season guests rank tone age has bowl scroll kettle vase scoop ; ( ) < = > 7 "
+                + "12345 x \t \0 ! ' * , - . / : ? @ [ ` { \u007f \u0080 \u00ff";
+        for (String[] row : can) {
+            for (String token : all.split(" ")) {
+                boolean good = row[1].contains(" " + token + " ");
+                String text = row[0] + token;
+                Book x = new Book();
+                int rules = Check.rules(x, text);
+                if (good && token.equals(";")) {
+                    Check.due("rules of '" + text + "'", 1, rules);
+                } else {
+                    Check.due("rules of '" + text + "'", NONE, rules);
+                    Check.due("fault(0) of '" + text + "'", 1, x.fault(0));
+                    Check.due("fault(1) of '" + text + "'", good ? text.length() : row[0].length(), x.fault(1));
+                }
+            }
+        }
+    }
+
     /** Cut within a word, the rest of it is none; cut elsewhere, the end can't stand there. */
     private static void endOfEveryBeginning() {
         Check.sentence("Terms: 1 what can't stand there (the end: the text's length)");
@@ -147,6 +183,8 @@ public final class TextEdgesTest {
         Check.fails(" ".repeat(592) + "bar 1=1", 1, 599);
         Check.fails(" ".repeat(597) + "bar", 1, 600);
         Check.fails(" ".repeat(598) + "ba", 1, 598);
+        Check.fails(" ".repeat(599) + ";", 1, 599);
+        Check.fails("\n".repeat(599) + "7", 1, 599);
         Check.fails("bar 1=1;" + " ".repeat(591) + "9", 1, 599);
         Check.fails("bar 1=1;" + " ".repeat(588) + "9999", 1, 596);
         Check.fails("b".repeat(600), 1, 0);
@@ -270,6 +308,19 @@ public final class TextEdgesTest {
         says(x, false, "rank bowl>0 or tone bowl<9 or rank scoop<9 or tone scoop>0", 0, 1, 3);
         says(x, true, "9999=9999 and 9999>9998 and 0<1 and 0000=0 and 0009<0010", 0, 1, 1);
         says(x, false, "9999<9999 or 9999>9999 or 0<0 or 0>0 or 1<0 or 9998>9999", 0, 1, 1);
+    }
+
+    private static void deepest() {
+        Check.sentence("Terms: not C, as deep as 8");
+        Book x = Scenes.everywhere();
+        for (int nots = 0; nots <= 8; nots++) {
+            says(x, nots % 2 == 0, "not ".repeat(nots) + "1=1", 0, 1, 1);
+            says(x, nots % 2 == 1, "not ".repeat(nots) + "1=2", 0, 1, 1);
+            says(x, nots % 2 == 0, "(".repeat(8 - nots) + "not ".repeat(nots) + "1=1" + ")".repeat(8 - nots), 0, 1, 1);
+        }
+        String pending = "1=2 or 1=1 and (".repeat(8) + "1=2 or 1=1 and 1=@" + ")".repeat(8);
+        says(x, true, pending.replace("@", "1"), 0, 1, 1);
+        says(x, false, pending.replace("@", "2"), 0, 1, 1);
     }
 
     private static void ages() {

@@ -385,6 +385,11 @@ public final class ThingEdgesTest {
         for (int t : new int[] {0, 5, 6}) {
             Check.due("all kept by one house " + t, 0, lent.of(t, 8));
         }
+        Book two = new Book();
+        two.thing(0, 1, 1, 1, 0);
+        two.copy(0, 1, 7);
+        Check.due("the first of two", 1, two.of(0, 8));
+        Check.due("the last of two", 1, two.of(1, 8));
         Book burnt = BUSY.takes(1, "burn", 5);
         Check.due("the other house's one is burnt", 0, burnt.of(0, 8));
         Check.due("its copy is no copy of a burnt root", 0, burnt.of(6, 8));
